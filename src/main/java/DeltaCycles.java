@@ -337,10 +337,13 @@ public final class DeltaCycles {
             return b == LOOSE ? a : UNSURE;
         }
 
-        /** What a gate of a kind makes of what it looks at; what it drives has a say in HOLD alone. */
+        /**
+         * What a gate of a kind makes of what it looks at; what it drives has a say in HOLD alone.
+         * A gate cannot tell a loose wire from an unsure one.
+         */
         static int outcome(int kind, int a, int b, int drives) {
-            int x = seen(a);
-            int y = seen(b);
+            int x = a == LOOSE ? UNSURE : a;
+            int y = b == LOOSE ? UNSURE : b;
             boolean unsure = x == UNSURE || y == UNSURE;
             switch (kind) {
                 case INVERT: return x == UNSURE ? UNSURE : 1 - x;
@@ -350,11 +353,6 @@ public final class DeltaCycles {
                 case THROUGH: return y == 0 ? LOOSE : y == 1 ? x : UNSURE;
                 default: return y == 1 ? x : drives;
             }
-        }
-
-        /** A gate cannot tell a loose wire from an unsure one. */
-        private static int seen(int level) {
-            return level == LOOSE ? UNSURE : level;
         }
     }
 

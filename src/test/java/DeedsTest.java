@@ -156,6 +156,18 @@ public final class DeedsTest {
         x.set(0, 2, 1);
         Check.due("set later for the same time", x.step(), 7);
         Check.due("comes behind", x.wire(0, 0), 2);
+        DeltaCycles y = Check.of("w0;w0;w0;");
+        y.set(2, 3, 6);
+        y.set(1, 1, 4);
+        y.set(0, 2, 2);
+        y.step();
+        Check.due("the earliest is wire 0", y.wire(0, 0), 2);
+        Check.due("not wire 1", y.wire(1, 0), 0);
+        y.step();
+        Check.due("then wire 1", y.wire(1, 0), 1);
+        Check.due("not wire 2", y.wire(2, 0), 0);
+        y.step();
+        Check.due("then wire 2", y.wire(2, 0), 3);
     }
 
     private static void endless() {

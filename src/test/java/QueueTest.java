@@ -7,6 +7,7 @@ public final class QueueTest {
         alikeStay();
         sameTimeIsOvertaken();
         eightAtMost();
+        eightGates();
         Check.end("QueueTest");
     }
 
@@ -91,6 +92,13 @@ public final class QueueTest {
             Check.due("two cycles", x.told(4), 2);
             queueIs("in mode " + mode, x, 0, mode == 0 ? new int[] {5, 1, 6, 1} : new int[] {6, 1});
         }
+        // the only one in a queue is overtaken, too
+        DeltaCycles z = Check.of("w0;w0;g2 0 0 1 5 0;");
+        z.run(6);
+        z.set(0, 1, 1);
+        z.set(0, 3, 1);
+        z.step();
+        queueIs("told twice at 7", z, 0, 12, 3);
         // told at once anew: what is due at the same time goes, the rest stays
         DeltaCycles x = Check.of("w0;w0;g2 0 0 1 0 0;");
         queueIs("told at 0", x, 0, 0, 0);
@@ -99,6 +107,27 @@ public final class QueueTest {
         Check.due("cycles", x.told(4), 2);
         Check.due("wire 1 follows at once", x.wire(1, 0), 1);
         queueIs("then", x, 0);
+    }
+
+    /** The last of eight gates is as the first of one. */
+    private static void eightGates() {
+        DeltaCycles x = Check.of("w0;w0;w0;w0;w0;w0;w0;w0;" + "g2 0 0 7 20 0;".repeat(8));
+        for (int i = 1; i <= 8; i++) {
+            x.set(0, i % 2, i);
+        }
+        x.run(9);
+        for (int g = 0; g < 8; g++) {
+            queueIs("of gate " + g, x, g, 21, 1, 22, 0, 23, 1, 24, 0, 25, 1, 26, 0, 27, 1, 28, 0);
+        }
+        Check.due("all hold", x.told(7), 255);
+        Check.due("run(14)", x.run(14), 3);
+        Check.due("none holds", x.told(7), 0);
+        for (int g = 0; g < 8; g++) {
+            queueIs("of gate " + g, x, g, 24, 0, 25, 1, 26, 0, 27, 1, 28, 0);
+        }
+        Check.due("gates of the next text", Check.take(x, "w1;w1;g2 0 0 1 20 0;") == 2 ? x.told(1) : -1, 1);
+        Check.due("which holds alone", x.told(7), 1);
+        Check.due("and is driven alone", x.gate(0, 9), 2);
     }
 
     private static void eightAtMost() {

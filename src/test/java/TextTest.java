@@ -10,6 +10,8 @@ public final class TextTest {
         firstFaultIsTold();
         faultLeavesAll();
         textBeginsAnew();
+        nothingIsLeftOver();
+        endOfText();
         Check.end("TextTest");
     }
 
@@ -195,5 +197,38 @@ public final class TextTest {
         Check.due("the seed stays", x.seed(0), 5);
         Check.due("a gate drives what its wire was told", x.gate(0, 6), 3);
         Check.due("it was told at time 0", x.queue(0, 0, 0), 2);
+    }
+
+    /** Neither of the text ahead nor of the one ahead of that. */
+    private static void nothingIsLeftOver() {
+        DeltaCycles x = Check.of("w0;w0;w0;g0 0 0 1 0 0;g0 1 1 2 0 0;g0 2 2 0 0 0;");
+        x.step();
+        Check.due("endless", x.told(5), 1);
+        Check.due("a next text", Check.take(x, "w0;w0;g2 0 0 1 9 0;g2 0 0 1 8 0;"), 2);
+        Check.due("not endless", x.told(5), 0);
+        Check.due("gates", x.told(1), 2);
+        x.set(0, 1, 3);
+        x.set(0, 0, 13);
+        x.run(4);
+        Check.due("a third text", Check.take(x, "w1;g0 0 0 0 2 0;"), 1);
+        Check.due("gates", x.told(1), 1);
+        Check.due("by hand", x.told(10), 0);
+        Check.due("its queue", x.gate(0, 8), 1);
+        Check.due("level", x.wire(0, 0), 1);
+        Check.due("a fourth text", Check.take(x, "w3;"), 1);
+        Check.due("no gates", x.told(1), 0);
+        Check.due("still", x.told(6), 1);
+        Check.due("wire(1, 0)", x.wire(1, 0), DeltaCycles.UNKNOWN);
+        Check.due("gate(0, 0)", x.gate(0, 0), DeltaCycles.UNKNOWN);
+    }
+
+    private static void endOfText() {
+        DeltaCycles x = Check.of("w0;w1;");
+        Check.due("a shorter text", Check.take(x, "w0"), -11);
+        Check.due("ends where it ends", x.fault(), 2);
+        faulty(" ".repeat(198) + "w0", 1, 200);
+        faulty(" ".repeat(199) + "w", 1, 200);
+        faulty(" ".repeat(196) + "w000", 2, 197);
+        sound(" ".repeat(200), 0, 0);
     }
 }

@@ -6,6 +6,7 @@ public final class UndoTest {
         severalAtOnce();
         sixteenAtMost();
         allIsAsAhead();
+        handAndFlicker();
         whatStays();
         Check.end("UndoTest");
     }
@@ -116,6 +117,24 @@ public final class UndoTest {
             x.undo(1);
             Check.holds("all is as ahead of deed " + i, all(x).equals(ahead[i]));
         }
+    }
+
+    private static void handAndFlicker() {
+        DeltaCycles x = Check.of("w0;w0;");
+        x.set(0, 1, 1);
+        x.set(0, 2, 1);
+        x.set(1, 3, 1);
+        x.step();
+        Check.due("wire 0 flickers", x.told(8), 1);
+        Check.due("undo(1)", x.undo(1), 0);
+        Check.due("it has not flickered", x.told(8), 0);
+        x.set(1, 1, 0);
+        x.step();
+        x.undo(2);
+        x.run(5);
+        Check.due("what waited by hand comes again: wire 0", x.wire(0, 0), 2);
+        Check.due("its level ahead", x.wave(0, 1, 1), 1);
+        Check.due("wire 1", x.wire(1, 0), 3);
     }
 
     private static void whatStays() {
