@@ -433,6 +433,15 @@ final class EdgesOfText {
         Edge.due("wires() at once again: the text is empty", x.wires(), 0);
         Edge.due("told(0)", x.told(0), 0);
         Edge.due("told(2) with a FAULT", Check.take(x, "w0;w") == -11 ? x.told(2) : -1, 0);
+        DeltaCycles y = Check.of("w0;w0;g0 0 0 1 0 0;g0 1 1 0 0 0;");
+        y.step();
+        Edge.due("told(5) of a text without end", y.told(5), 1);
+        Edge.due("told(8)", y.told(8), 3);
+        Edge.due("wires() of the next one", Check.take(y, "w0;w0;g0 0 0 1 2 0;"), 2);
+        Edge.due("told(5)", y.told(5), 0);
+        Edge.due("told(8)", y.told(8), 0);
+        Edge.due("told(4)", y.told(4), 0);
+        Edge.due("step()", y.step(), 2);
     }
 
     private static void refusedText() {

@@ -68,6 +68,19 @@ final class EdgesOfTime {
         x.step();
         Edge.due("gate(0, 8) after a tenth", x.gate(0, 8), 8);
         Edge.due("queue(0, 7, 0)", x.queue(0, 7, 0), 29);
+        // eight gates with eight things each, and the ninth
+        DeltaCycles y = Check.of("w0;w0;w0;w0;w0;w0;w0;w0;" + "g2 0 0 7 20 0;".repeat(8));
+        for (int i = 1; i <= 8; i++) {
+            y.set(0, i % 2, i);
+        }
+        y.run(7);
+        for (int g = 0; g < 8; g++) {
+            queueIs("of eight", y, g, due);
+        }
+        y.step();
+        for (int g = 0; g < 8; g++) {
+            queueIs("of nine", y, g, 21, 1, 22, 0, 23, 1, 24, 0, 25, 1, 26, 0, 27, 1, 28, 0);
+        }
     }
 
     private static void overtaken() {
@@ -128,6 +141,21 @@ final class EdgesOfTime {
         y.set(0, 3, 5);
         y.run(5);
         queueIs("MODE 0 forgets nothing", y, 0, 9, 0, 10, 0, 13, 1, 14, 3);
+        // each gate by its own queue: 1 comes to one of them, and 0 to the others, whatever wire 0 is
+        DeltaCycles z = Check.of("w0;w1;w0;w0;w0;w0;g1 0 2 3 9 1;g2 0 1 4 9 1;g1 0 2 5 9 1;");
+        for (int i = 1; i <= 4; i++) {
+            z.set(0, i % 2, i);
+        }
+        z.run(3);
+        queueIs("of 0 alike", z, 0, 9, 0, 10, 0, 11, 0, 12, 0);
+        queueIs("of 1 alike", z, 1, 9, 1, 10, 1, 11, 1, 12, 1);
+        queueIs("of 0 alike", z, 2, 9, 0, 10, 0, 11, 0, 12, 0);
+        z.set(1, 0, 0);
+        z.step();
+        queueIs("told 1 still, as wire 0 is: the one of this TIME is told anew", z, 1, 9, 1, 10, 1, 11, 1, 12, 1);
+        z.step();
+        queueIs("told 0: all the others go", z, 1, 13, 0);
+        queueIs("of 0 alike", z, 0, 9, 0, 10, 0, 11, 0, 12, 0, 13, 0);
     }
 
     private static void comesBehind() {
@@ -475,6 +503,17 @@ final class EdgesOfTime {
         for (int k = 0; k < 6; k++) {
             Edge.due("wave(0, " + (5 - k) + ", 1)", y.wave(0, 5 - k, 1), levels[k]);
             Edge.due("wave(0, " + (5 - k) + ", 0)", y.wave(0, 5 - k, 0), times[k]);
+        }
+        // eight wires, told from the last one's time on backward, with a level of its own each
+        DeltaCycles z = Check.of("w0;w0;w0;w0;w0;w0;w0;w0;");
+        for (int w = 0; w < 8; w++) {
+            z.set(w, 1 + w % 3, 20 - 2 * w);
+        }
+        for (int w = 7; w >= 0; w--) {
+            Edge.due("step()", z.step(), 20 - 2 * w);
+            Edge.due("wire(" + w + ", 0)", z.wire(w, 0), 1 + w % 3);
+            Edge.due("told(10)", z.told(10), w);
+            Edge.due("the next one is not set yet", w == 0 ? 0 : z.wire(w - 1, 0), 0);
         }
     }
 
